@@ -53,7 +53,7 @@ public final class ModelTest {
     private void mixedCalls(int most) {
         int closeAt = random.nextInt(3) == 0 ? random.nextInt(most) : -1;
         for (int i = 0; i < most; i++) {
-            if (i == closeAt) {
+            if (i == closeAt || closeAt >= 0 && i == closeAt + 9) {
                 is("close()", x.close(), plain.close());
             }
             if (random.nextInt(3) == 0) {

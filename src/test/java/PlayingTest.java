@@ -253,11 +253,11 @@ public final class PlayingTest {
 
     private static void logOutcomes() {
         UnitThreads x = new UnitThreads(3);
-        x.asks(0, 0, 1);
         x.asks(1, 0, 1);
-        x.throwsAt(2, 0);
+        x.asks(2, 0, 1);
+        x.throwsAt(0, 0);
         x.play(42L, 2);
-        int[][] due = {{0, 1, 1}, {0, 0, 0}, {0, 2, 2}, {1, 1, 1}};
+        int[][] due = {{0, 1, 0}, {0, 0, 2}, {0, 2, 1}, {1, 2, 1}};
         for (int k = 0; k < due.length; k++) {
             for (int what = 0; what < 3; what++) {
                 Due.is("P13 turn " + k + ", " + what, x.log(k, what), due[k][what]);
@@ -265,7 +265,7 @@ public final class PlayingTest {
         }
         Due.is("P13 turns", x.count(1), due.length);
         x.close();
-        Due.is("P13 stays behind the close", x.log(2, 2), 2);
+        Due.is("P13 stays behind the close", x.log(2, 2), 1);
     }
 
     private static void logRefused() {
