@@ -153,8 +153,7 @@ public final class UnitThreads {
             case 3:
                 return acting();
             default:
-                // The bound comes first: what - 4 would wrap around for the least numbers.
-                return what >= 4 && isUnit(what - 4) ? crew[what - 4].ownSecond : NONE;
+                return isUnit(what - 4) ? crew[what - 4].ownSecond : NONE;
         }
     }
 
