@@ -7,11 +7,7 @@ final class Due {
     }
 
     static void is(String call, long got, long want) {
-        asked++;
-        if (got != want) {
-            wrong++;
-            System.out.println(call + " answered " + got + ", due is " + want);
-        }
+        same(call, Long.toString(got), Long.toString(want));
     }
 
     static void yes(String call, boolean got) {
@@ -20,6 +16,14 @@ final class Due {
 
     static void no(String call, boolean got) {
         is(call, got ? 1L : 0L, 0L);
+    }
+
+    static void same(String call, String got, String want) {
+        asked++;
+        if (!got.equals(want)) {
+            wrong++;
+            System.out.println(call + " answered " + got + ", due is " + want);
+        }
     }
 
     static boolean failed() {
